@@ -213,7 +213,7 @@ public final class OneMoves {
 
     public int worth(int digits) {
         int refusal = orders.readDigits(digits);
-        return refusal < 0 ? refusal : orders.runThrough().gained;
+        return refusal < 0 ? refusal : orders.runCalled(0).gained;
     }
 
     public int ends(int digits, int work) {
@@ -224,7 +224,7 @@ public final class OneMoves {
         if (refusal < 0) {
             return refusal;
         }
-        Stand then = orders.runThrough();
+        Stand then = orders.runCalled(0);
         return then.state[work] == DONE ? then.end[work] : NO_NUMBER;
     }
 
@@ -666,27 +666,22 @@ public final class OneMoves {
 
         int minutesOf(Stand s, int work) {
             Work w = list[work];
-            int plain = walk(s, w.mover, w.thing) + carry(s, w, pace[w.mover]);
+            int place = s.thingAt[w.thing];
+            int load = Math.abs(place - w.to) * weight[w.thing];
+            int plain = Math.abs(s.moverAt[w.mover] - place) + partsOf(load, pace[w.mover]);
+            int nextWalk = Math.abs(s.moverAt[nextMover(w.mover)] - place);
             switch (w.kind) {
-                case HEAVY: return plain + walk(s, nextMover(w.mover), w.thing);
-                case SLOW: return 2 * (plain + walk(s, nextMover(w.mover), w.thing));
+                case HEAVY: return plain + nextWalk;
+                case SLOW: return 2 * (plain + nextWalk);
                 case CART: return plain + thingsBeside(s, w.thing);
                 case QUICK: return partsOf(plain + thingsBeside(s, w.thing), 2);
-                case OWN: return carry(s, w, 1);
+                case OWN: return load;
                 default: return plain;
             }
         }
 
         int nextMover(int mover) {
             return mover + 1 < movers ? mover + 1 : 0;
-        }
-
-        int walk(Stand s, int mover, int thing) {
-            return Math.abs(s.moverAt[mover] - s.thingAt[thing]);
-        }
-
-        int carry(Stand s, Work w, int itsPace) {
-            return partsOf(Math.abs(s.thingAt[w.thing] - w.to) * weight[w.thing], itsPace);
         }
 
         int thingsBeside(Stand s, int thing) {
@@ -811,12 +806,7 @@ public final class OneMoves {
             return digits;
         }
 
-        /** How all stands when the order is through. */
-        Stand runThrough() {
-            return runCalled(0);
-        }
-
-        /** As runThrough, the doctor being called ahead of those places of the order. */
+        /** How all stands when the order is through, the doctor being called ahead of those places of it. */
         Stand runCalled(int places) {
             Stand s = stands[0];
             s.beginFrom(town.now);
@@ -1249,19 +1239,16 @@ public final class OneMoves {
             int due = readNumber(0, MOST_DUE);
             readWord("for");
             int worth = readNumber(0, MOST_WORTH);
-            if (fault < 0) {
-                int number = town.addWork(kind, mover, thing, place, due, worth);
-                readBehind(town.list[number], number);
+            if (fault >= 0) {
+                return;
             }
-        }
-
-        void readBehind(Work w, int number) {
+            int number = town.addWork(kind, mover, thing, place, due, worth);
             if (isWord("behind")) {
                 advance();
-                w.behind = readNumber(0, number - 1);
+                town.list[number].behind = readNumber(0, number - 1);
                 if (fault < 0 && isWord("within")) {
                     advance();
-                    w.within = readNumber(1, MOST_WITHIN);
+                    town.list[number].within = readNumber(1, MOST_WITHIN);
                 }
             }
         }
