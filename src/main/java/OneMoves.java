@@ -1273,7 +1273,6 @@ public final class OneMoves {
         }
 
         int perform(int number, int itsKind, int itsA, int act, int x) {
-            length = 0;
             broken = false;
             n = number;
             kind = itsKind;

@@ -164,6 +164,15 @@ public final class PromisesTest {
         due("works stay", x.many(2), 6);
         due("to 10", told(x, two + "heavy 0 0 to 10 by 1 for 1;"), -100 - 33);
         due("weight 10", told(x, "thing 0 10;"), -108);
+        due("pace 0", told(x, "mover 0 0;"), -108);
+        due("a fourth mover", told(x, "mover 1 1;".repeat(4)), -130);
+        due("three movers", told(x, "mover 1 1;".repeat(3)), 0);
+        due("mover 1 of one", told(x, two + "work 1 0 to 1 by 1 for 1;"), -100 - 25);
+        due("mover 3 of one, thing 3 of six", told(x, "mover 1 1;" + "thing 1 1;".repeat(6) + "work 3 0 to 1 by 1 for 1;"), -100 - 75);
+        due("a name with z", told(x, "moverz 1 1;"), -100);
+        due("a name with a", told(x, "movera 1 1;"), -100);
+        due("another first letter", told(x, "hover 1 1;"), -100);
+        due("a fault at 0 behind nothing", told(x, "x mover 1 1;"), -100);
         due("pace 6", told(x, "mover 0 6;"), -108);
     }
 
@@ -218,6 +227,18 @@ public final class PromisesTest {
         due("a bad seventh", x.work(6, 0, 0, 0, 0, 0), BAD);
         due("behind none", x.workOf(5, 6), -9);
         due("many(2)", x.many(2), 6);
+        OneMoves y = of(PAIR);
+        y.keep();
+        y.work(0, 0, 0, 0, 0, 0);
+        y.behind(2, 1, 5);
+        y.does(1);
+        y.does(2);
+        y.again();
+        due("anew", y.work(0, 0, 0, 0, 0, 0), 2);
+        due("behind none", y.workOf(2, 6), -9);
+        due("within 0", y.workOf(2, 7), 0);
+        due("open", y.workOf(2, 8), 0);
+        due("may()", y.may(), 7);
     }
 
     static void p7Behind() {
@@ -503,6 +524,11 @@ public final class PromisesTest {
         due("spoilt ones count", y.fewest(), 2);
         OneMoves z = of("mover 0 1;thing 0 1;thing 0 1;own 0 0 to 9 by 9 for 0;own 0 1 to 9 by 9 for 99;");
         due("not of BEST alone", z.fewest(), 1);
+        OneMoves v = of("mover 0 1;thing 0 1;thing 0 1;own 0 0 to 5 by 5 for 0;own 0 1 to 1 by 1 for 9;own 0 1 to 1 by 1 for 9;");
+        due("the least: 0 alone is late, or 1 and 2", v.fewest(), 1);
+        v.pass(1);
+        v.does(0);
+        due("those ahead don't count", v.fewest(), 2);
     }
 
     static void p22Shortest() {
@@ -663,6 +689,15 @@ public final class PromisesTest {
         OneMoves z = of("mover 0 1;thing 0 1;own 0 0 to 0 by 9 for 2;own 0 0 to 2 by 9 for 5;own 0 0 to 0 by 9 for 1;");
         z.rule(3, 0);
         due("worthy: minutes 0 count as 1", z.takes(0), 1);
+        z.rule(5, 9);
+        z.does(1);
+        z.put(1, 0, 0);
+        due("worthy, the least of two", z.takes(0), 0);
+        z.does(0);
+        due("told, of one alone", z.takes(1), 2);
+        OneMoves v = of("mover 0 1;thing 0 1;own 0 0 to 1 by 9 for 3;own 0 0 to 0 by 9 for 4;");
+        v.rule(3, 0);
+        due("worthy: 3 by 1, 4 by 1", v.takes(0), 1);
     }
 
     static void p29OrderOf() {
@@ -811,6 +846,9 @@ public final class PromisesTest {
         due("write(0, 40, 5)", x.write(0, 40, 5), -12);
         due("all 0", x.sheet(0, 1, 40), 1);
         due("item(0, 1, 39)", x.item(0, 1, 39), 0);
+        x.write(0, 0, 7);
+        x.sheet(0, 1, 40);
+        due("item(0, 1, 0)", x.item(0, 1, 0), 0);
         due("n counts nothing", x.sheet(0, -1, 41), 1);
         due("n counts nothing", x.sheet(0, -1, LOW), 1);
         due("missing", x.item(0, 1, 0), -11);
@@ -952,6 +990,12 @@ public final class PromisesTest {
         due("shares: (9 by 5) ^ 1", x.act(3, 2, 7), 0);
         traceIs(x, 50, 12);
         due("tells: 6 ^ 8", x.act(3, 3, 7), 14);
+        OneMoves y = new OneMoves();
+        y.rule(1, 0);
+        y.rule(1, 0);
+        y.rule(2, 3);
+        y.shelf(0, 0, 2);
+        due("tells: (42 ^ 3) and 2 by 1", y.act(0, 3, 5), 43);
         due("ints wrap", x.act(1, 0, HIGH), (HIGH + 1) * 3);
         due("ints wrap", x.act(3, 2, HIGH), (HIGH + 2) / 5 ^ 1);
     }
@@ -1072,6 +1116,28 @@ public final class PromisesTest {
         told(x, "mover 1 1;");
         due("the latest", x.again(), 2);
         due("the latest", x.many(3), 0);
+        OneMoves y = new OneMoves();
+        y.rule(1, 2);
+        y.keep();
+        OneMoves z = new OneMoves();
+        z.rule(3, 4);
+        z.keep();
+        told(z, PAIR);
+        z.does(0);
+        z.behind(1, 0, 1);
+        z.keep();
+        z.pass(2);
+        z.does(1);
+        z.again();
+        due("rules by kind", z.ruleOf(0, 0), 3);
+        due("rules by A", z.ruleOf(0, 1), 4);
+        due("ends are kept", z.workOf(0, 9), 4);
+        due("not spoilt", z.does(1), 18);
+        y.again();
+        y.rule(2, 2);
+        y.again();
+        y.rule(5, 7);
+        due("anew", y.ruleOf(1, 0), 5);
         due("movers", x.many(0), 1);
     }
 
