@@ -172,6 +172,10 @@ public final class PromisesTest {
         due("a name with z", told(x, "moverz 1 1;"), -100);
         due("a name with a", told(x, "movera 1 1;"), -100);
         due("another first letter", told(x, "hover 1 1;"), -100);
+        due("a name behind a number", told(x, "mover 1a 1;"), -107);
+        due("a byte below the digits", told(x, "mover 1/ 1;"), -107);
+        due("a byte above the digits", told(x, "mover 1: 1;"), -107);
+        due("as long as they go", told(x, "mover1 1;"), 0);
         due("a fault at 0 behind nothing", told(x, "x mover 1 1;"), -100);
         due("pace 6", told(x, "mover 0 6;"), -108);
     }
@@ -239,6 +243,11 @@ public final class PromisesTest {
         due("within 0", y.workOf(2, 7), 0);
         due("open", y.workOf(2, 8), 0);
         due("may()", y.may(), 7);
+        told(y, PAIR + "own 0 0 to 1 by 1 for 1 behind 0 within 3;");
+        told(y, PAIR);
+        y.work(0, 0, 0, 0, 0, 0);
+        due("behind none", y.workOf(2, 6), -9);
+        due("within 0", y.workOf(2, 7), 0);
     }
 
     static void p7Behind() {
@@ -486,6 +495,12 @@ public final class PromisesTest {
         due("from now on", x.ends(digits(2, 1), 1), 8);
         x.set(0, 9);
         due("water's minutes", x.ends(digits(2, 1), 1), 50);
+        OneMoves y = of("mover 0 1;thing 0 1;own 0 0 to 0 by 9 for 9;own 0 0 to 5 by 99 for 9;own 0 0 to 0 by 99 for 7 behind 0 within 4;");
+        y.pass(30);
+        y.does(0);
+        y.pass(4);
+        due("within 4 of what ended at 30", y.ends(digits(2, 1), 2), 34);
+        due("not within 4 any more", y.ends(digits(1, 2), 2), -9);
     }
 
     static void p20Best() {
@@ -698,6 +713,9 @@ public final class PromisesTest {
         OneMoves v = of("mover 0 1;thing 0 1;own 0 0 to 1 by 9 for 3;own 0 0 to 0 by 9 for 4;");
         v.rule(3, 0);
         due("worthy: 3 by 1, 4 by 1", v.takes(0), 1);
+        OneMoves u = of("mover 0 1;thing 0 1;own 0 0 to 0 by 9 for 2;own 0 0 to 3 by 9 for 5;");
+        u.rule(3, 0);
+        due("worthy: 2 by 1, 5 by 3", u.takes(0), 0);
     }
 
     static void p29OrderOf() {
