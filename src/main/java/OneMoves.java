@@ -201,14 +201,9 @@ public final class OneMoves {
         return town.isFree(town.now, work) ? town.carryOut(town.now, work) : STATE;
     }
 
+    /** What works were worth as they were done: dues() may have told other DUES since then. */
     public int had() {
-        int sum = 0;
-        for (int w = 0; w < town.works; w++) {
-            if (town.now.state[w] == DONE) {
-                sum += town.list[w].worthAt(town.now.end[w]);
-            }
-        }
-        return sum;
+        return town.now.gained;
     }
 
     public int worth(int digits) {

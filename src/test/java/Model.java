@@ -10,12 +10,12 @@ final class Model {
     static final int BAD = -1, FULL = -2, NONE = -3, STATE = -4;
 
     static final class Job {
-        int kind, mover, thing, to, due, worth, behind = -1, within, state, end;
+        int kind, mover, thing, to, due, worth, behind = -1, within, state, end, got;
 
         Job copy() {
             Job j = new Job();
             j.kind = kind; j.mover = mover; j.thing = thing; j.to = to; j.due = due; j.worth = worth;
-            j.behind = behind; j.within = within; j.state = state; j.end = end;
+            j.behind = behind; j.within = within; j.state = state; j.end = end; j.got = got;
             return j;
         }
     }
@@ -87,7 +87,8 @@ final class Model {
             if (j.kind == 1 || j.kind == 3) movers.get((j.mover + 1) % movers.size())[0] = j.to;
             j.state = 1;
             j.end = minute;
-            return gain(j);
+            j.got = gain(j);
+            return j.got;
         }
 
         List<Integer> openOnes() {
@@ -327,7 +328,7 @@ final class Model {
 
     int had() {
         int sum = 0;
-        for (Job j : w.jobs) if (j.state == 1) sum += w.gain(j);
+        for (Job j : w.jobs) sum += j.got;
         return sum;
     }
 

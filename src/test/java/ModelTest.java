@@ -165,7 +165,11 @@ public final class ModelTest {
                 due("alterRow(" + a + ", " + b + ", " + d + ")", x.alterRow(a, b, d), m.alterRow(a, b, d));
             }
             case 29 -> due("judge()", x.judge(), m.judge());
-            case 30 -> { a = some(0, 3); due("dues(" + a + ")", x.dues(a), m.dues(a)); }
+            case 30 -> {
+                a = some(0, 3);
+                due("dues(" + a + ")", x.dues(a), m.dues(a));
+                due("had()", x.had(), m.had());
+            }
             case 31 -> { a = some(0, 3); b = random.nextInt(3) == 0 ? some(-1, 3) : random.nextInt(4); d = some(0, 40); due("sheet(" + a + ", " + b + ", " + d + ")", x.sheet(a, b, d), m.sheet(a, b, d)); }
             case 32 -> {
                 a = some(0, 3); b = some(0, 12); d = random.nextBoolean() ? random.nextInt() : some(0, 90);

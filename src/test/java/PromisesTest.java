@@ -452,6 +452,45 @@ public final class PromisesTest {
         due("had()", x.had(), 27);
         told(x, PAIR);
         due("another town", x.had(), 0);
+        hadStaysWhatItWas();
+    }
+
+    static void tellDues(OneMoves x, int... dues) {
+        x.sheet(0, 2, dues.length);
+        for (int k = 0; k < dues.length; k++) x.write(0, k, dues[k]);
+        due("dues(0)", x.dues(0), dues.length);
+    }
+
+    /** A DUE that is told when a work is done already changes nothing of what it was worth. */
+    static void hadStaysWhatItWas() {
+        OneMoves x = of("mover 0 1;thing 0 1;thing 5 1;thing 0 1;own 0 0 to 4 by 4 for 10;"
+            + "own 0 1 to 8 by 5 for 20;own 0 2 to 1 by 99 for 30 behind 0 within 1;");
+        due("does(0), at 4, due 4", x.does(0), 10);
+        tellDues(x, 0, 5, 99);
+        due("a DUE ahead of its end", x.had(), 10);
+        due("the DUE is told all the same", x.workOf(0, 4), 0);
+        due("does(1), at 7, due 5", x.does(1), 18);
+        x.keep();
+        tellDues(x, 999, 999, 999);
+        due("a DUE behind its end", x.had(), 28);
+        due("does(2), spoilt", x.does(2), 0);
+        due("a spoilt one", x.had(), 28);
+        x.again();
+        due("what was kept", x.had(), 28);
+        tellDues(x, 0, 0);
+        due("and told anew", x.had(), 28);
+        OneMoves y = of(PAIR);
+        tellDues(y, 1, 3);
+        due("a DUE told ahead counts", y.does(0), 7);
+        due("had()", y.had(), 7);
+        y.worth(digits(1));
+        y.best(0);
+        y.prove();
+        due("orders that are tried add nothing", y.had(), 7);
+        due("town() that is refused", told(y, "x"), -100);
+        due("changes nothing", y.had(), 7);
+        told(y, "");
+        due("no works", y.had(), 0);
     }
 
     static void p18Worth() {
