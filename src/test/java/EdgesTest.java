@@ -47,6 +47,7 @@ public final class EdgesTest extends Answers {
                     "promise " + number + ": " + refusal.group() + " was due nowhere");
             }
         }
+        expect(asked.get(40).contains(-15L), "parted by 0 (-15) was due nowhere");
         expect(sections == 44, "the document has " + sections + " promises");
     }
 

@@ -77,9 +77,20 @@ final class OrderEdges extends Answers {
             x.does(0);
             for (int k = 0; k < 6; k++) due("at(1, " + k + ")", x.at(1, k), k <= others ? 5 : 4);
         }
+        for (int kind : new int[] {2, 4}) {
+            OneMoves x = of("mover 0 1;" + "thing 3 1;".repeat(3) + "thing 4 1;".repeat(3));
+            x.work(kind, 0, 2, 5, 0, 0);
+            due("others ahead of it by numbers, kind " + kind, x.minutes(0), kind == 2 ? 7 : 4);
+            x.does(0);
+            for (int k = 0; k < 6; k++) due("at(1, " + k + ")", x.at(1, k), k < 3 ? 5 : 4);
+        }
         says(14, "quick: half of what cart takes, any rest counted as one.");
         int[] halves = {0, 1, 1, 2, 2, 3};
         for (int n = 0; n < 6; n++) due("half of " + n, minutesOf(4, 0, 1, 0, 1, n), halves[n]);
+        for (int others = 0; others < 6; others++) {
+            OneMoves x = of("mover 0 1;" + "thing 0 1;".repeat(others + 1) + "quick 0 0 to 0 by 0 for 0;");
+            due("half of " + others + " others", x.minutes(0), halves[others]);
+        }
         says(14, "slow: twice what heavy takes.");
         due("twice 0", minutesOf(3, 4, 1, 4, 1, 4), 0);
         due("twice 99", minutesOf(3, 9, 1, 0, 9, 9), 198);
@@ -348,6 +359,14 @@ final class OrderEdges extends Answers {
         due("of busy", busy().fewest() >= 0 ? 1 : 0, 1);
         due("not spoilt", waited(3, 3).fewest(), 0);
         due("spoilt", waited(3, 4).fewest(), 1);
+        // 5 ends at its DUE if it is the first, and 3 then late or not
+        due("one order of two", of("mover 0 1;thing 0 1;thing 0 1;own 0 0 to 3 by 8 for 0;own 0 1 to 5 by 5 for 0;").fewest(), 0);
+        due("either of two", of("mover 0 1;thing 0 1;thing 0 1;own 0 0 to 3 by 7 for 0;own 0 1 to 5 by 5 for 0;").fewest(), 1);
+        OneMoves x = lasting(0, 4, 5);
+        x.behind(2, 0, 3);
+        due("spoilt in one order alone", x.fewest(), 0);
+        x.behind(1, 0, 3);
+        due("spoilt in all that are allowed", x.fewest(), 1);
     }
 
     static void shortest() {
@@ -357,6 +376,12 @@ final class OrderEdges extends Answers {
         due("3 and 4", lasting(3, 4).shortest(), 7);
         due("not spoilt", waited(3, 3).shortest(), 18);
         due("a spoilt one takes no minutes", waited(3, 4).shortest(), 14);
+        // ways of one mover: 2 there, 1 carried, 8 there; else 9 there, 7 there, 1 carried
+        String street = "mover 0 1;thing 9 1;thing 2 1;work 0 0 to 9 by 0 for 0;work 0 1 to 1 by 0 for 0;";
+        due("the second first: 2, 1, 8", of(street).shortest(), 11);
+        OneMoves y = of(street);
+        y.behind(1, 0, 0);
+        due("that isn't allowed: 9, 7, 1", y.shortest(), 17);
         idle("no minutes in water's", () -> lasting(0, 0), x -> x.shortest(), 0);
         OneMoves x = lasting(9);
         x.set(0, 1);

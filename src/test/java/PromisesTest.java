@@ -1,44 +1,5 @@
-/** Each promise of the document by hand: ordinary inputs, the edges that it names, wrong inputs. */
-public final class PromisesTest {
-    static final int BAD = -1, FULL = -2, NONE = -3, STATE = -4;
-    static final int LOW = Integer.MIN_VALUE, HIGH = Integer.MAX_VALUE;
-    static int wrong = 0;
-    static int promise = 0;
-
-    static void due(String call, long got, long want) {
-        if (got != want) {
-            wrong++;
-            System.out.println("promise " + promise + ": " + call + " answered " + got + ", due is " + want);
-        }
-    }
-
-    static void feedText(OneMoves x, String text) {
-        for (int i = 0; i < text.length(); i += 8) {
-            int n = Math.min(8, text.length() - i);
-            long eight = 0;
-            for (int k = n - 1; k >= 0; k--) eight = eight << 8 | text.charAt(i + k) & 255;
-            x.feed(eight, n);
-        }
-    }
-
-    static int told(OneMoves x, String text) {
-        feedText(x, text);
-        return x.town();
-    }
-
-    static OneMoves of(String text) {
-        OneMoves x = new OneMoves();
-        int got = told(x, text);
-        if (got < 0) due("town of " + text, got, 0);
-        return x;
-    }
-
-    static int digits(int... works) {
-        int d = 0;
-        for (int i = 0; i < works.length; i++) d |= works[i] << 3 * i;
-        return d;
-    }
-
+/** Each promise of the document by hand: ordinary inputs, some edges, wrong inputs; EdgesTest has all edges. */
+public final class PromisesTest extends Answers {
     /** Works that take n minutes each: weight 1, so far, with pace 1, each with a thing of its own. */
     static final String PAIR = "mover 0 1;thing 0 1;thing 5 1;own 0 0 to 4 by 4 for 10;own 0 1 to 8 by 5 for 20;";
 

@@ -85,6 +85,10 @@ final class RuleEdges extends Answers {
         due("the greatest that is open", y.takes(0), 3);
         y.does(3);
         due("then those of 0, from 3 on", y.takes(0), 5);
+        OneMoves z = of("mover 0 1;thing 0 1;");
+        for (int kind : new int[] {0, 3, 1, 4, 3}) z.work(kind, 0, 0, 0, 0, 0);
+        z.rule(4, 0);
+        due("a lesser one at A isn't taken", z.takes(0), 3);
     }
 
     static OneMoves single(int kind, int a) {
@@ -136,6 +140,9 @@ final class RuleEdges extends Answers {
         due("4 by 0, 5 by 1", worthiest(0, 4, 1, 5), 1);
         due("none is worth anything", worthiest(5, 0, 0, 0, 3, 0), 0);
         due("0 and then 1 by 9", worthiest(0, 0, 9, 1), 1);
+        due("6 by 2, 4 by 1", worthiest(2, 6, 1, 4), 1);
+        due("6 by 2, 4 by 0 as by 1", worthiest(2, 6, 0, 4), 1);
+        due("6 by 2, 3 by 0 as by 1", worthiest(2, 6, 0, 3), 0);
     }
 
     static void takes() {

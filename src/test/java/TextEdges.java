@@ -234,6 +234,20 @@ final class TextEdges extends Answers {
         for (int what = 0; what < 4; what++) due("many(" + what + ")", y.many(what), 0);
         due("no rows", y.many(5), 0);
 
+        says(3, "It is THE TOWN: all by it alone");
+        String start = "mover 0 1;thing 0 1;own 0 0 to 1 by 9 for 9;own 0 0 to 2 by 9 for 9";
+        OneMoves w = of(start + " behind 0 within 5;");
+        w.does(0);
+        due("town()", told(w, start + ";"), 2);
+        due("BEHIND isn't that of the town ahead", w.workOf(1, 6), -9);
+        due("nor WITHIN", w.workOf(1, 7), 0);
+        due("nor what was done", w.workOf(0, 8), 0);
+        due("nor had()", w.had(), 0);
+        due("nor where it was", w.at(1, 0), 0);
+        told(w, start + " behind 0 within 5;?");
+        due("nor is it that of a fault", told(w, start + " behind 0;"), 2);
+        due("WITHIN", w.workOf(1, 7), 0);
+
         says(3, "such a call changes nothing (but that THE TAPE is used up by town())");
         OneMoves z = withoutTape();
         due("a fault", told(z, "mover 1 1;thing"), -115);
