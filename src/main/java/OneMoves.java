@@ -52,11 +52,11 @@ public final class OneMoves {
 
     private static final int ROW_CELLS = 3;
 
-    private final Town town = new Town();
+    private final Orders orders = new Orders();
+    private final Town town = orders.town;
     private final Town kept = new Town();
     private final Town draft = new Town();
     private final Tape tape = new Tape();
-    private final Orders orders = new Orders(town);
     private final Actor actor = new Actor();
     private final Host host = new Host();
     private final int[] rows = new int[WORKS * ROW_CELLS];
@@ -741,12 +741,12 @@ public final class OneMoves {
         }
     }
 
-    /** Tries orders of a town on copies of how it stands. */
+    /** Tries orders of a town on copies of how it stands; it makes that town, as a constructor may hand out nothing. */
     private static final class Orders {
         private static final int MOST_ROUNDS = 2000;
         private static final int MOST_HALVINGS = 18;
 
-        final Town town;
+        final Town town = new Town();
         final Stand[] stands = new Stand[WORKS + 1];
         final int[] order = new int[WORKS];
         final int[] left = new int[WORKS];
@@ -759,8 +759,7 @@ public final class OneMoves {
         long above = 0;
         long below = 1;
 
-        Orders(Town itsTown) {
-            town = itsTown;
+        Orders() {
             for (int i = 0; i <= WORKS; i++) {
                 stands[i] = new Stand();
             }

@@ -1,4 +1,4 @@
-/** Each promise of the document by hand: ordinary inputs, some edges, wrong inputs; EdgesTest has all edges. */
+/** Each promise of the document by hand: ordinary inputs, some edges, wrong inputs; SentencesTest has every sentence. */
 public final class PromisesTest extends Answers {
     /** Works that take n minutes each: weight 1, so far, with pace 1, each with a thing of its own. */
     static final String PAIR = "mover 0 1;thing 0 1;thing 5 1;own 0 0 to 4 by 4 for 10;own 0 1 to 8 by 5 for 20;";

@@ -1,16 +1,18 @@
 import java.nio.file.Files;
 import java.nio.file.Path;
+import java.util.Arrays;
 import java.util.Map;
 import java.util.Set;
 import java.util.regex.Matcher;
 import java.util.regex.Pattern;
 
 /**
- * Each sentence of the document that names a boundary: a call just inside, one just outside, and where a call
- * is refused a look at what must not have changed. It also looks whether the words stand in the document, and
- * whether each refusal that a promise names was due somewhere.
+ * Each sentence of the document from its terms to its last promise. Where it names a boundary: a call just inside,
+ * one just outside, and where a call is refused a look at what must not have changed. It also looks whether the
+ * words stand in the document, whether all of its words are quoted, and whether each refusal that a promise names
+ * was due somewhere.
  */
-public final class EdgesTest extends Answers {
+public final class SentencesTest extends Answers {
     static final Map<String, Long> REFUSALS = Map.ofEntries(
         Map.entry("BAD", -1L), Map.entry("FULL", -2L), Map.entry("NONE", -3L), Map.entry("STATE", -4L),
         Map.entry("-9", -9L), Map.entry("-11", -11L), Map.entry("-12", -12L), Map.entry("-13", -13L),
@@ -33,6 +35,29 @@ public final class EdgesTest extends Answers {
         }
     }
 
+    /** What the document promises, without what is no sentence: heads, signatures, marks of parts. */
+    static String promised(String doc) {
+        String told = doc.substring(doc.indexOf("## Terms") + 8, doc.indexOf("## Not promised"));
+        told = told.replaceAll("(?m)^## Promise .*$|^```.*$|^Ahead of the calls .*$|^======== [123]", "");
+        return plain(told.replaceAll("(?m)^`.*?`: ", ""));
+    }
+
+    static void everyWordIsQuoted(String doc) {
+        String told = promised(doc);
+        boolean[] quoted = new boolean[told.length()];
+        for (String words : sentences) {
+            String w = plain(words);
+            for (int i = told.indexOf(w); i >= 0; i = told.indexOf(w, i + 1)) {
+                Arrays.fill(quoted, i, i + w.length(), true);
+            }
+        }
+        StringBuilder left = new StringBuilder();
+        for (int i = 0; i < quoted.length; i++) left.append(quoted[i] ? '\n' : told.charAt(i));
+        for (String words : left.toString().split("\n+")) {
+            expect(!words.matches(".*\\w.*"), "no test quotes: " + words);
+        }
+    }
+
     static void refusalsWereDue(String doc) {
         Matcher section = Pattern.compile("## Promise (\\d+): \\w.*\n\n(.*)\n").matcher(doc);
         int sections = 0;
@@ -52,6 +77,7 @@ public final class EdgesTest extends Answers {
     }
 
     public static void main(String[] args) throws Exception {
+        PlainWords.run();
         TownEdges.run();
         TextEdges.run();
         OrderEdges.run();
@@ -61,8 +87,9 @@ public final class EdgesTest extends Answers {
         KeptEdges.run();
         String doc = Files.readString(Path.of("../shared/DOC.md"));
         sentencesStand(doc);
+        everyWordIsQuoted(doc);
         refusalsWereDue(doc);
-        System.out.println(wrong == 0 ? sentences.size() + " sentences with edges hold" : wrong + " edges don't hold");
+        System.out.println(wrong == 0 ? sentences.size() + " sentences hold" : wrong + " answers are not as due");
         if (wrong != 0) System.exit(1);
     }
 }
